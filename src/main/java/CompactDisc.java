@@ -1009,32 +1009,40 @@ public final class CompactDisc {
             return best;
         }
 
-        private int trackOf(int section) {
-            int e = entryFor(section);
-            return e == NONE ? 1 : tracks[e];
+        private static boolean isEntry(int e) {
+            return e >= 0 && e < MOST_ENTRIES;
         }
 
-        private int indexOf(int section) {
-            int e = entryFor(section);
-            return e == NONE ? 1 : indexes[e];
+        private int controlOf(int e) {
+            return isEntry(e) ? controls[e] : 0;
+        }
+
+        private int trackOf(int e) {
+            return isEntry(e) ? tracks[e] : 1;
+        }
+
+        private int indexOf(int e) {
+            return isEntry(e) ? indexes[e] : 1;
         }
 
         boolean isPause(int section) {
-            return indexOf(section) == 0;
+            return indexOf(entryFor(section)) == 0;
         }
 
-        private boolean goesOn(int section, int other) {
-            return trackOf(section) == trackOf(other) && isPause(section) == isPause(other);
+        /** Whether sections of two entries may be counted together: of one track, and both pauses or neither. */
+        private boolean belongs(int e, int other) {
+            return trackOf(e) == trackOf(other) && (indexOf(e) == 0) == (indexOf(other) == 0);
         }
 
         private int timeOf(int section, int all) {
+            int e = entryFor(section);
             int count = 0;
-            if (isPause(section)) {
-                for (int s = section; s < all && goesOn(section, s); s++) {
+            if (indexOf(e) == 0) {
+                for (int s = section; s < all && belongs(e, entryFor(s)); s++) {
                     count++;
                 }
             } else {
-                for (int s = section - 1; s >= 0 && goesOn(section, s); s--) {
+                for (int s = section - 1; s >= 0 && belongs(e, entryFor(s)); s--) {
                     count++;
                 }
             }
@@ -1043,8 +1051,7 @@ public final class CompactDisc {
 
         void describe(int section, int all, Label label) {
             int e = entryFor(section);
-            int control = e == NONE ? 0 : controls[e];
-            label.write(control, trackOf(section), indexOf(section), timeOf(section, all), start + section);
+            label.write(controlOf(e), trackOf(e), indexOf(e), timeOf(section, all), start + section);
         }
     }
 
@@ -1105,11 +1112,11 @@ public final class CompactDisc {
             }
         }
 
+        /** The odd places of a frame are those of its own inner word, which stand in its row already. */
         private void makeFrames(int frames) {
             for (int f = frames - 1; f >= 0; f--) {
-                for (int i = 0; i < INNER_SIZE; i++) {
-                    int b = rows.get(i % 2 == 0 ? f - 1 : f, i);
-                    rows.set(f, i, b);
+                for (int i = 0; i < INNER_SIZE; i += 2) {
+                    rows.set(f, i, rows.get(f - 1, i));
                 }
             }
         }
@@ -1185,7 +1192,7 @@ public final class CompactDisc {
         private int chooseJoint(int symbol, int many) {
             int ahead = zerosAhead(symbol, many);
             int best = 0;
-            int bestFar = Integer.MAX_VALUE;
+            int bestFar = MOST_BITS + 1;
             boolean bestMocks = true;
             for (int bit = 0; bit <= JOINT_BITS; bit++) {
                 int joint = 1 << bit >>> 1;
@@ -1452,7 +1459,7 @@ public final class CompactDisc {
         }
 
         private boolean beginsSection(int f) {
-            return wasFound(f + 1) && besides[f] == FIRST_MARK && besides[f + 1] == SECOND_MARK;
+            return wasFound(f) && wasFound(f + 1) && besides[f] == FIRST_MARK && besides[f + 1] == SECOND_MARK;
         }
 
         private int countSections() {
