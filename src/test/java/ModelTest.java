@@ -12,6 +12,8 @@ public final class ModelTest {
             benchRun(seed);
         }
         largestDisc();
+        shortenedDisc();
+        everySlip();
         everyWord();
         TALLY.end();
     }
@@ -164,6 +166,54 @@ public final class ModelTest {
         both.compareDisc();
         both.play(2, 2, 20);
         both.comparePlayed();
+    }
+
+    /** Frames of the stream whose outer words are no longer found. */
+    private static void shortenedDisc() {
+        Pair both = new Pair(TALLY, "shortened");
+        both.fill(24 * 40, 11);
+        both.press();
+        both.play(2, 2, 5);
+        int slips = 0;
+        while (both.length() > 0 && slips < 200) {
+            both.slip(Math.max(0, both.length() - 600), -600);
+            slips++;
+            if (slips % 12 == 0 || both.length() < 3000) {
+                both.play(2, 2, 5);
+                both.comparePlayed();
+            }
+        }
+        both.slip(0, 100);
+        both.play(2, 2, 20);
+        both.comparePlayed();
+    }
+
+    /** Bits that come and go at every place within a cell of 32, for every length within one. */
+    private static void everySlip() {
+        Random dice = new Random(5);
+        Pair both = new Pair(TALLY, "slips");
+        both.fill(24, 12);
+        both.press();
+        for (int i = 0; i < 70; i++) {
+            both.slip(i, 1 + dice.nextInt(70));
+            both.bits(0);
+            both.bits(32);
+            both.slip(i, -dice.nextInt(70));
+            both.bits(64);
+            both.slip(both.length() - i, 1 - 2 * dice.nextInt(2));
+            both.flip(both.length() - 1);
+            both.slip(40, 1);
+            compareEnd(both);
+        }
+        both.compareDisc();
+    }
+
+    private static void compareEnd(Pair both) {
+        for (int i = both.length() - 140; i < both.length() + 2; i += 31) {
+            both.bits(i);
+        }
+        both.balance(both.length());
+        both.run(true);
     }
 
     private static void everyWord() {

@@ -120,9 +120,12 @@ public final class PromiseTest {
         due("later than the press", x.begin(7), true);
         x.play(0, 0, 0);
         due("place", x.q(0, 5), 400000);
-        x.press();
-        x.play(0, 0, 0);
-        due("new place", x.q(0, 5), 7);
+        for (int section : new int[] {7, 74, 75, 4499, 4500, 8999, 9000, 359999, 360000, 399999}) {
+            x.begin(section);
+            x.press();
+            x.play(0, 0, 0);
+            due("new place", x.q(0, 5), section);
+        }
 
         promise = "7 entry";
         x = new CompactDisc();
@@ -188,6 +191,22 @@ public final class PromiseTest {
         due("same track", x.q(1, 4), 1);
         due("other track", x.q(2, 4), 0);
         due("its next", x.q(3, 4), 1);
+        lastSections();
+    }
+
+    /** Discs whose last section is whole, or has a frame or two. */
+    private static void lastSections() {
+        int[][] want = {{196, 2, 2, 1}, {197, 2, 3, 1}, {198, 3, 3, 1}, {195, 2, 2, 0}};
+        for (int[] w : want) {
+            CompactDisc x = new CompactDisc();
+            x.fill(24 * (w[0] - 111), 3);
+            x.entry(0, 0, 1, 0);
+            due("frames", x.press(), w[0]);
+            x.play(0, 0, 0);
+            due(w[0] + " frames, sections found", x.told(7), w[1]);
+            due(w[0] + " frames, pause", x.q(0, 4), w[2]);
+            due(w[0] + " frames, second one", x.q(1, 0), w[3]);
+        }
     }
 
     private static void discPromises() {
@@ -258,6 +277,7 @@ public final class PromiseTest {
         due("a turned place", x.word(0, 13), x.spell(255));
         due("another", x.word(111, 16), x.spell(255));
         due("one behind", x.word(111, 17), x.spell(0));
+        due("the last one", x.word(111, 32), x.spell(255));
         due("no word 33", x.word(0, 33), -1);
         due("no word -1", x.word(0, -1), -1);
         due("no frame -1", x.word(-1, 0), -1);
@@ -407,6 +427,9 @@ public final class PromiseTest {
         due("again", x.noise(1, 1, 5), 286);
         due("all is back", x.bits(588), bits);
         due("none", x.noise(1, 0, 5), 0);
+        // The first z behind this seed is 0, which is not below 0.
+        x.noise(1, 1, 634785765);
+        due("z = 0", x.bits(588) < 0, bits < 0);
         due("no frame 112", x.noise(112, 1, 1), -1);
         due("no frame -1", x.noise(-1, 1, 1), -1);
         due("below 0", x.noise(0, -1, 1), -1);
@@ -961,6 +984,10 @@ public final class PromiseTest {
             due("four marks can always be mended", spoiledBench(inner, 4, 2).mend(inner, 0), 4);
             due("five cannot", spoiledBench(inner, 5, 0).mend(inner, 2), -2);
         }
+        everyPairOfPlaces(true);
+        everyPairOfPlaces(false);
+        nearMisses(true);
+        nearMisses(false);
         CompactDisc x = benchOf(5);
         x.seal(false);
         for (int i = 28; i < 32; i++) {
@@ -969,6 +996,54 @@ public final class PromiseTest {
         x.put(0, x.at(0) ^ 1);
         due("marks of other places do not count", x.mend(false, 2), 1);
         due("and stay", x.mark(30, true), true);
+    }
+
+    private static void everyPairOfPlaces(boolean inner) {
+        int n = inner ? 32 : 28;
+        CompactDisc whole = benchOf(77);
+        whole.seal(inner);
+        CompactDisc x = benchOf(77);
+        x.seal(inner);
+        for (int a = 0; a < n; a++) {
+            for (int b = a + 1; b < n; b++) {
+                x.put(a, x.at(a) ^ (1 + (a * 7 + b * 13) % 255));
+                x.put(b, x.at(b) ^ (1 + (a * 29 + b * 3) % 255));
+                due("places " + a + " and " + b, x.mend(inner, 2), 2);
+                due("place " + a, x.at(a), whole.at(a));
+                due("place " + b, x.at(b), whole.at(b));
+            }
+        }
+    }
+
+    private static int locator(boolean inner, int place) {
+        return PlainModel.power((inner ? 31 : 27) - place);
+    }
+
+    /** Two marked places, and two others that differ so that together they look almost like a single one. */
+    private static void nearMisses(boolean inner) {
+        int x1 = locator(inner, 4);
+        int x2 = locator(inner, 9);
+        int x3 = locator(inner, 14);
+        int x4 = locator(inner, 20);
+        int l3 = PlainModel.times(x3 ^ x1, x3 ^ x2);
+        int l4 = PlainModel.times(x4 ^ x1, x4 ^ x2);
+        // No single place can bear a first sum of 0, or a second one of 0; nor may it be a marked one.
+        missed(inner, l4, l3);
+        missed(inner, PlainModel.times(l4, x4), PlainModel.times(l3, x3));
+        missed(inner, PlainModel.times(l4, x4 ^ x1), PlainModel.times(l3, x3 ^ x1));
+        missed(inner, PlainModel.times(l4, x4 ^ x2), PlainModel.times(l3, x3 ^ x2));
+    }
+
+    private static void missed(boolean inner, int at14, int at20) {
+        CompactDisc x = benchOf(77);
+        x.seal(inner);
+        x.mark(4, true);
+        x.mark(9, true);
+        x.put(14, x.at(14) ^ at14);
+        x.put(20, x.at(20) ^ at20);
+        int was = x.at(14);
+        due("a near miss", x.mend(inner, 2), -2);
+        due("stays", x.at(14), was);
     }
 
     private static void mendSpoiled(CompactDisc whole, boolean inner, int m, int r, int reach) {
