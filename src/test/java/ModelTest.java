@@ -155,12 +155,13 @@ public final class ModelTest {
         both.begin(400000);
         both.press();
         both.compareDisc();
-        for (int n = 0; n < 14; n++) {
+        for (int n = 0; n < 13; n++) {
             both.slip(1000 * n + 17, 600);
         }
-        both.slip(5, 388);
+        both.slip(5, 588);
         both.slip(5, 1);
         both.slip(360000, 0);
+        both.compareDisc();
         both.scratch(0, 100);
         both.noise(500, 600, 3);
         both.compareDisc();
@@ -206,6 +207,18 @@ public final class ModelTest {
             compareEnd(both);
         }
         both.compareDisc();
+        both.scratch(0, 600);
+        for (int k = 0; k < 110; k++) {
+            both.flip(k);
+        }
+        for (int i = 0; i < 70; i++) {
+            for (int n = 0; n < 2; n++) {
+                both.slip(i, n == 0 ? 5 + i : -5 - i);
+                for (int k = 0; k < 200; k += 32) {
+                    both.bits(k);
+                }
+            }
+        }
     }
 
     private static void compareEnd(Pair both) {
