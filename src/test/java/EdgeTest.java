@@ -395,6 +395,8 @@ public final class EdgeTest {
         due("its length", x.length(), 113 * 588);
         due("its bits", x.bits(1000), bits);
         due("its sign", x.signAt(0), 0);
+        Twins twins = new Twins(TALLY, sentence + "pressed again", EdgeTest::pressedAgain, () -> DiscHand.pressed(40, 4));
+        twins.compare(1);
         // A long disc before a short one leaves nothing behind the short one's end.
         x = DiscHand.pressed(11712, 4);
         x.wipe();
@@ -404,6 +406,23 @@ public final class EdgeTest {
         due("nor in the last bits", x.bits(113 * 588 - 3), 0);
         x.slip(113 * 588, 600);
         due("nor in bits that come", x.bits(113 * 588 + 5), 0);
+    }
+
+    /** Pressed and played before, of another and longer stream, with what that disc told beside. */
+    private static CompactDisc pressedAgain() {
+        CompactDisc x = new CompactDisc();
+        x.fill(1000, 9);
+        x.begin(77);
+        x.entry(0, 1, 2, 0);
+        x.press();
+        x.noise(5, 50, 5);
+        x.play(1, 1, 9);
+        x.wipe();
+        x.begin(0);
+        x.plain();
+        x.fill(40, 4);
+        x.press();
+        return x;
     }
 
     private static void nothingWasPlayed(CompactDisc x) {
@@ -583,6 +602,14 @@ public final class EdgeTest {
         for (int[] w : want) {
             due("over the end of a cell, " + w[0], x.balance(w[0]), w[1]);
         }
+        x.noise(0, 1, 7);
+        int level = 1;
+        int sum = 0;
+        for (int n = 0; n < 200; n++) {
+            due("behind " + n + " bits of noise", x.balance(n), sum);
+            level = x.bits(n) < 0 ? -level : level;
+            sum += level;
+        }
     }
 
     private static void run() {
@@ -752,7 +779,8 @@ public final class EdgeTest {
 
     private static void noise() {
         edge(21, "the bit is turned if z is below 0 then");
-        for (int seed : new int[] {0, 5, -1, LOW, HIGH, 634785765}) {
+        // Behind the last four the first z is 0, -1, the greatest and the least.
+        for (int seed : new int[] {0, 5, -1, LOW, HIGH, 634785765, 653637408, -1493846240, -1512697883}) {
             CompactDisc x = DiscHand.blank(1);
             long z = seed & 0xffffffffL;
             int turned = 0;
@@ -877,6 +905,7 @@ public final class EdgeTest {
         due("its last again", x.bits(359999), LOW);
         due("it can be played", x.play(2, 2, 20), 11712);
         due("frames found", x.told(6), 613);
+        due("no word in them, nor behind the end", x.told(0), 613 * 32);
     }
 
     private static void play() {
@@ -943,6 +972,17 @@ public final class EdgeTest {
         }
         due("last left", x.heard(11, false), 0);
         due("last right", x.heard(11, true), 0);
+        CompactDisc full = DiscHand.pressed(11712, 2);
+        full.play(0, 0, 0);
+        for (int i : new int[] {2926, 2927}) {
+            int left = full.streamAt(4 * i) << 8 | full.streamAt(4 * i + 1);
+            int right = full.streamAt(4 * i + 2) << 8 | full.streamAt(4 * i + 3);
+            due("left " + i + " of the longest", full.heard(i, false), (short) left);
+            due("right " + i + " of the longest", full.heard(i, true), (short) right);
+        }
+        due("behind it", full.heard(2928, false), 65536);
+        due("its last byte", full.played(11711), full.streamAt(11711));
+        due("behind that", full.played(11712), -1);
         edge(26, "16 bits with a sign");
         due("least", x.heard(0, false), -32768);
         due("most", x.heard(0, true), 32767);
@@ -1094,7 +1134,16 @@ public final class EdgeTest {
             due("second mark, bit " + bit, x.told(7), 1);
             due("no second section", x.q(1, 0), -1);
         }
-        CompactDisc x = DiscHand.blank(1);
+        CompactDisc x = DiscHand.pressed(1, 1);
+        x.play(0, 0, 0);
+        due("two sections", x.told(7), 2);
+        for (int k = 0; k < 13; k++) {
+            x.slip(588 * 99, -600);
+        }
+        x.play(0, 0, 0);
+        due("99 frames", x.told(6), 99);
+        due("the second section's next frame is no more", x.told(7), 1);
+        x = DiscHand.blank(1);
         for (int k = 0; k < 3; k++) {
             DiscHand.draw(x, 588 * (20 + 2 * k) + 27, 0b00100000000001, 14);
             DiscHand.draw(x, 588 * (21 + 2 * k) + 27, 0b00000000010010, 14);
@@ -1109,6 +1158,85 @@ public final class EdgeTest {
         x.play(0, 0, 0);
         due("on the last two frames", x.told(7), 4);
         due("the fourth", x.q(3, 0), 0);
+        soundness();
+    }
+
+    /** A disc whose section 0 tells these 80 bits, with right check bits but for those that are turned. */
+    private static CompactDisc telling(String bits80, int turned) {
+        CompactDisc x = DiscHand.pressed(1, 1);
+        int zero = x.spell(0);
+        String bits = bits80 + PlainModel.checkBits(bits80);
+        for (int k = 0; k < 96; k++) {
+            // The words of 0 and 64 differ in a single bit.
+            boolean one = bits.charAt(k) == '1' ^ k == turned;
+            if (one == (x.word(2 + k, 0) == zero)) {
+                x.flip(588 * (2 + k) + 27 + 11);
+            }
+        }
+        x.play(0, 0, 0);
+        return x;
+    }
+
+    private static String figures(int high, int low) {
+        return PlainModel.binary(high, 4) + PlainModel.binary(low, 4);
+    }
+
+    /** Track, index, time and place, each 0 but for one of these eight. */
+    private static String allBut(int k, String figures) {
+        StringBuilder bits = new StringBuilder("00000001");
+        for (int n = 0; n < 9; n++) {
+            int part = n < 5 ? n : n - 1;
+            bits.append(n != 5 && part == k ? figures : "00000000");
+        }
+        return bits.toString();
+    }
+
+    private static void soundness() {
+        edge(30, "the four bits behind CONTROL are 0001");
+        for (int mode = 0; mode < 16; mode++) {
+            String bits = "1111" + PlainModel.binary(mode, 4) + "0".repeat(72);
+            CompactDisc x = telling(bits, -1);
+            due("mode " + mode, x.q(0, 0), mode == 1 ? 1 : 0);
+            due("control with mode " + mode, x.q(0, 1), mode == 1 ? 15 : -1);
+        }
+        edge(30, "its check bits are right");
+        for (int k = 0; k < 96; k++) {
+            due("bit " + k + " turned", telling(allBut(0, figures(1, 2)), k).q(0, 0), 0);
+        }
+        edge(30, "all figures are 0 .. 9, the seconds below 60, the hundredths below 75");
+        for (int k = 0; k < 8; k++) {
+            int below = k == 3 || k == 6 ? 60 : k == 4 || k == 7 ? 75 : 100;
+            for (int n : new int[] {0, 9, 10, 59, 60, 61, 69, 70, 74, 75, 76, 79, 80, 90, 99}) {
+                CompactDisc x = telling(allBut(k, figures(n / 10, n % 10)), -1);
+                due(n + " as number " + k, x.q(0, 0), n < below ? 1 : 0);
+                int unit = k < 2 || k == 4 || k == 7 ? 1 : k == 3 || k == 6 ? 75 : 4500;
+                int what = k == 0 ? 2 : k == 1 ? 3 : k < 5 ? 4 : 5;
+                due(n + " as number " + k + ", told", x.q(0, what), n < below ? n * unit : -1);
+            }
+            for (int[] bad : new int[][] {{0, 10}, {0, 15}, {10, 0}, {15, 0}, {8, 10}, {2, 11}, {12, 9}}) {
+                due("no figures " + k, telling(allBut(k, figures(bad[0], bad[1])), -1).q(0, 0), 0);
+            }
+        }
+        edge(30, "the words beside of its frames 2 .. 97 are words of bytes");
+        for (int r : new int[] {0, 1, 2, 3, 50, 96, 97, 98, 99}) {
+            CompactDisc x = DiscHand.pressed(1, 1);
+            // Two 1s side by side are in no word; of the section's marks only the joint is spoiled.
+            x.flip(588 * r + 27 + (r < 2 ? -1 : 0));
+            x.play(0, 0, 0);
+            due("frame " + r, x.q(0, 0), r >= 2 && r <= 97 ? 0 : 1);
+        }
+        edge(30, "6 in how many of the 96 bytes beside the bit 128 is 1");
+        CompactDisc x = DiscHand.pressed(1, 1);
+        int told = 0;
+        for (int r : new int[] {2, 3, 50, 96, 97}) {
+            // The words of 0 and 128, and those of 64 and 192, are other ones.
+            int b = x.read(x.word(r, 0));
+            DiscHand.draw(x, 588 * r + 27, x.spell(b) ^ x.spell(b + 128), 14);
+            x.play(0, 0, 0);
+            told++;
+            due("frame " + r, x.q(0, 6), told);
+            due("sound still", x.q(0, 0), 1);
+        }
     }
 
     private static void burst() {

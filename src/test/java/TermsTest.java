@@ -80,7 +80,7 @@ public final class TermsTest {
         x.seal(inner);
         for (int k = 0; k < m + r; k++) {
             int i = (from + 5 * k) % size;
-            x.put(i, x.at(i) ^ (20 + k));
+            x.put(i, x.at(i) ^ (20 + 31 * k + 7 * from) % 255 + 1);
             if (k < m) {
                 x.mark(i, true);
             }
@@ -183,6 +183,12 @@ public final class TermsTest {
         for (int i = 0; i < 32; i += 2) {
             boolean turned = i >= 12 && i <= 15 || i >= 28;
             due("place " + i + " of inner word -1", x.word(0, i + 1), x.spell(turned ? 255 : 0));
+        }
+        for (int frame = 0; frame < 2; frame++) {
+            for (int i = 0; i < 32; i++) {
+                boolean turned = i >= 12 && i <= 15 || i >= 28;
+                due("place " + i + " of frame " + frame, x.word(frame, i + 1), x.spell(turned ? 255 : 0));
+            }
         }
         edge("frames with other numbers are all 0");
         int frames = x.frames();
@@ -595,6 +601,23 @@ public final class TermsTest {
             due(m + " marks", x.inner(40), m <= 4 ? m : -2);
             due(m + " marks, words failed", x.told(1), m <= 4 ? 1 : 2);
         }
+        for (int i = 0; i < 32; i++) {
+            x = DiscHand.pressed(240, 8);
+            DiscHand.unspell(x, 40, i);
+            x.play(0, 0, 0);
+            due("place " + i, x.inner(40), 1);
+            due("place " + i + ", the words beside it", x.inner(39) + x.inner(41), 0);
+        }
+        x = DiscHand.pressed(240, 8);
+        DiscHand.unspell(x, 0, 0);
+        DiscHand.unspell(x, 119, 31);
+        x.play(0, 0, 0);
+        due("the first inner word", x.inner(0), 1);
+        due("the last that is whole", x.inner(119), 1);
+        DiscHand.failInner(x, 0);
+        x.play(0, 0, 0);
+        due("the first fails", x.inner(0), -2);
+        due("the first outer word notices it", x.outer(0), 1);
         edge("r being at most the reach, and m + 2 r at most 4");
         for (int[] mr : new int[][] {{0, 1}, {1, 1}, {2, 1}, {3, 1}, {0, 2}, {1, 2}}) {
             x = DiscHand.pressed(240, 8);
@@ -709,18 +732,19 @@ public final class TermsTest {
             x.feed(-1L, 8);
         }
         x.press();
-        for (int k = 0; k < 115; k++) {
-            x.slip(5 * 588, -600);
+        for (int k = 0; k < 114; k++) {
+            x.slip(6 * 588, -600);
         }
-        due("five frames are left", x.length(), 5 * 588);
-        // Place 0 of the outer words 2 and 3 came; that of 4 would be on frame 5.
-        due("all but two are lost", x.play(2, 2, 0), 238);
-        due("found", x.told(6), 5);
-        due("frame 0", x.played(0) == 255 && x.isSure(0), true);
-        due("frame 1", x.played(24) == 255 && x.isSure(24), true);
-        for (int i = 25; i < 240; i += i < 200 ? 3 : 1) {
-            due("byte " + i, x.played(i), 0);
-            due("byte " + i, x.isSure(i), false);
+        due("six frames are left", x.length(), 6 * 588);
+        // Place 0 of the outer words 2, 3 and 4 came; that of 5 would be on frame 6.
+        due("all but three are lost", x.play(2, 2, 0), 237);
+        due("found", x.told(6), 6);
+        for (int i = 0; i < 240; i++) {
+            boolean came = i == 0 || i == 24 || i == 48;
+            due("byte " + i, x.played(i), came ? 255 : 0);
+            if (came || i % 3 == 1) {
+                due("byte " + i + " is sure", x.isSure(i), came);
+            }
         }
         edge("places of inner words that there are not are marked and 0");
         x = DiscHand.pressed(240, 8);
