@@ -590,7 +590,7 @@ public final class EdgeTest {
         x.slip(0, -2);
         due("two went", x.balance(65855), 65855);
         due("and no more", x.balance(65856), -1000000);
-        edge(15, "a level is 1 before the first bit, and turns at each 1");
+        edge(15, "a LEVEL is 1 before the first bit, and turns (1 to -1, -1 to 1) at each 1");
         x = DiscHand.blank(1);
         x.flip(0);
         for (int n : new int[] {1, 2, 31, 32, 33, 64, 65, 65856}) {

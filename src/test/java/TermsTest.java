@@ -1,3 +1,5 @@
+import java.util.Random;
+
 /**
  * The edges that the document's terms name, in its order: codes, stream, spelling, beside, playing. Each
  * sentence has a group of its own, and no object is called more than 512 times.
@@ -21,6 +23,7 @@ public final class TermsTest {
     public static void main(String[] args) {
         codes();
         mending();
+        noSuchWord();
         cutIntoFrames();
         samplesStand();
         delays();
@@ -114,6 +117,36 @@ public final class TermsTest {
                     due(name + ", mark " + i, x.mark(i, false), like.mark(i, false));
                 }
             }
+        }
+    }
+
+    /** Two marks and two wrong places besides: now and then that is near another word of the code. */
+    private static void noSuchWord() {
+        edge("if there is none, it fails");
+        Random dice = new Random(39);
+        for (boolean inner : new boolean[] {true, false}) {
+            int size = inner ? 32 : 28;
+            int mended = 0;
+            for (int turn = 0; turn < 2000; turn++) {
+                int[] word = new int[32];
+                boolean[] marks = new boolean[32];
+                CompactDisc x = new CompactDisc();
+                int from = dice.nextInt(size);
+                for (int k = 0; k < 4; k++) {
+                    int i = (from + 5 * k) % size;
+                    word[i] = 1 + dice.nextInt(255);
+                    marks[i] = k % 2 == 0;
+                    x.put(i, word[i]);
+                    x.mark(i, marks[i]);
+                }
+                int fate = PlainModel.mendWord(word, marks, size, 2);
+                due(inner + ", turn " + turn, x.mend(inner, 2), fate);
+                for (int i = 0; i < size; i++) {
+                    due(inner + ", turn " + turn + ", place " + i, x.at(i), word[i]);
+                }
+                mended += fate == -2 ? 0 : 1;
+            }
+            due("some are near another word, most are not", mended > 20 && mended < 1000, true);
         }
     }
 
@@ -231,7 +264,8 @@ public final class TermsTest {
     }
 
     private static void joints() {
-        edge("no run that ends in the joint or at the first 1 behind it has less than 2 or more than 10 zeros");
+        edge("no run that ends in the joint or at the first 1 behind it (of the word or sign that follows)"
+                + " has less than 2 or more than 10 zeros");
         for (int seed = 0; seed < 12; seed++) {
             CompactDisc x = DiscHand.pressed(24 * 40, seed);
             due("shortest", x.run(false), 2);
@@ -382,7 +416,7 @@ public final class TermsTest {
                 due("section " + section + ", frame " + r, x.word(98 * section + r, 0), x.spell(b));
             }
         }
-        edge("16 CHECK bits .. each turned");
+        edge("(both with the highest power first; coefficients modulo 2), each turned");
         x = new CompactDisc();
         x.feed(0, 1);
         x.press();
@@ -719,7 +753,7 @@ public final class TermsTest {
         // Place 16 is the high byte of sample 1 of the left side of frame 8.
         due("its wrong byte", x.played(24 * 8 + 4), x.streamAt(24 * 8 + 4) ^ 1);
         due("a right one", x.played(24 * 8 + 5), x.streamAt(24 * 8 + 5));
-        edge("0 .. how many places were marked or differed");
+        edge("how many places were marked or differed");
         playedWith(x, 1);
         due("mended", x.played(24 * 8 + 4), x.streamAt(24 * 8 + 4));
         due("no inner word noticed it", x.inner(8 + 64), 0);
